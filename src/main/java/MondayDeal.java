@@ -384,7 +384,7 @@ public final class MondayDeal {
         if (!isOneOfTwo(what)) {
             return OUTSIDE;
         }
-        int set = told.fewestBroken(0, 0, NONE, 0, day, other);
+        int set = told.leftOutFor(day, other);
         return what == 0 ? Integer.bitCount(set) : set;
     }
 
@@ -640,8 +640,13 @@ public final class MondayDeal {
             }
         }
 
+        /** The RULES to be left out for an ORDER with day directly ahead of other. */
+        int leftOutFor(int day, int other) {
+            return fewestBroken(0, 0, NONE, 0, day, other);
+        }
+
         /** The least of the smallest sets of RULES that rows with this beginning break, day being directly ahead of other. */
-        int fewestBroken(int place, int used, int last, int broken, int day, int other) {
+        private int fewestBroken(int place, int used, int last, int broken, int day, int other) {
             if (place >= DAYS) {
                 return broken;
             }
