@@ -685,7 +685,6 @@ public final class MondayDeal {
 
         /** Does the CLAUSES on the draft, up to the FAULT; answers its place, or NONE. */
         int readInto(Told draft) {
-            start = 0;
             end = 0;
             clauses = 0;
             while (clauses < MOST_CLAUSES) {
@@ -973,7 +972,8 @@ public final class MondayDeal {
         int find(int row) {
             int low = 0;
             int high = size - 1;
-            while (low <= high) {
+            // Each step halves what is left at least.
+            for (int step = 0; step < size && low <= high; step++) {
                 int middle = (low + high) / 2;
                 if (packed[middle] == row) {
                     return middle;

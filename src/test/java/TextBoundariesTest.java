@@ -55,9 +55,9 @@ public final class TextBoundariesTest extends Sentences {
     @Says(promise = 1, words = "An object is used for at most 512 calls after it has been made; what later calls answer is free.")
     static void the512thCallIsAnsweredYet() {
         tell("work 0 99 9;double 0");
-        // 20 calls until here, 491 deals, then one more.
-        for (int n = 1; n <= 491; n++) is("deal(5039)", x.deal(5039), 198);
-        is("the 512th call, count(3)", x.count(3), 491 * 198);
+        // 21 calls until here, 490 deals, then one more.
+        for (int n = 1; n <= 490; n++) is("deal(5039)", x.deal(5039), 198);
+        is("the 512th call, count(3)", x.count(3), 490 * 198);
     }
 
     // ---- DAYS, WORKS, RULES
@@ -249,6 +249,22 @@ public final class TextBoundariesTest extends Sentences {
         is("orders()", x.orders(), 5040);
         is("work(1, 4)", x.work(1, 4), 0);
         is("back(0)", x.back(0), 1);
+    }
+
+    @Says(promise = 4, words = "The place of the FAULT (the letter with which the TOKEN begins, or the length); NONE.")
+    static void whatWasReadOnceIsNotThereForTheNextReading() {
+        tell(TWO_WORKS);
+        put("work 0 1 1;work 0 1 1;work 0 1 1;work 0 1 1;first 0;first 0;first 0;first 0;behind 5 0");
+        for (int i = 0; i < 3; i++) is("fault()", x.fault(), NONE);
+        x.erase();
+        put("behind 2 0");
+        is("those WORKS are not there: fault()", x.fault(), 7);
+        x.erase();
+        put("free;idle;x");
+        for (int i = 0; i < 2; i++) is("fault()", x.fault(), 10);
+        x.erase();
+        put("behind 1 0");
+        is("these are there: fault()", x.fault(), NONE);
     }
 
     @Says(promise = 4, words = "CLAUSES with ; between, 14 at most;")

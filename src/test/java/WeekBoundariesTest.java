@@ -345,7 +345,13 @@ public final class WeekBoundariesTest extends Sentences {
         is("another of three", dealt(321456), 9);
         tell("idle;work 0 1 20;work 0 2 20;work 0 4 20;behind 1 0;behind 2 0");
         is("on the same DAY, one of two", x.deal(0), 3);
-        tell("idle;work 0 1 20;work 1 2 20;behind 1 0;behind 0 1");
+        tell("idle;fast 0;feast 0 1 20;work 1 2 20;work 1 4 20;work 2 8 20;behind 1 0;behind 2 0;behind 3 0");
+        x.ready(0);
+        ratio("of two on one DAY the first: odds(1)", p -> x.odds(1, p), 1, 2);
+        ratio("never the other: odds(2)", p -> x.odds(2, p), 0, 1);
+        is("one of them, by what was MADE READY", x.deal(0), 2);
+        is("and no more", x.deal(0), 0);
+        tell("calendar;work 0 1 20;work 1 2 20;behind 1 0;behind 0 1");
         is("each behind the other, nothing there", x.deal(0), 0);
         x.ready(0);
         is("it is used up where the other is done", x.deal(0), 2);
