@@ -184,6 +184,21 @@ public final class WeekBoundariesTest extends Sentences {
         is("none is against it: which(0123456)", x.which(123456), 0);
     }
 
+    @Says(promise = 11, words = "NOT: a RULE is against it.")
+    static void ordersThatWereThereBeforeATextAreNoMore() {
+        is("which(6012345)", x.which(6012345), 4320);
+        tell("first 6");
+        is("orders()", x.orders(), 4320);
+        is("the first behind the last one: which(6012345)", x.which(6012345), NOT);
+        is("order(4320, 0)", x.order(4320, 0), UNKNOWN);
+        is("deal(4320)", x.deal(4320), UNKNOWN);
+        is("the last one: which(5643210)", x.which(5643210), 4319);
+        tell("free;" + NO_ORDERS);
+        is("which(0123456)", x.which(123456), NOT);
+        tell("free");
+        is("which(6012345)", x.which(6012345), 4320);
+    }
+
     // ---- promise 12
 
     @Says(promise = 12, words = "A WEEK is DEALT by an ORDER: what is earned in it.")
