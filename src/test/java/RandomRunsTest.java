@@ -159,7 +159,8 @@ public final class RandomRunsTest {
             case "odds" -> new int[] {about(6), about(2)};
             case "makeReady" -> new int[] {1 + about(3), about(2)};
             case "fair" -> new int[] {about(7), 1 + about(7), about(2)};
-            case "beside", "across", "known", "loose" -> new int[] {about(7), about(7), about(2)};
+            case "known" -> random.nextInt(5) == 0 ? new int[] {about(7), about(7), about(2)} : agreeing();
+            case "beside", "across", "loose" -> new int[] {about(7), about(7), about(2)};
             case "waits", "at" -> new int[] {about(7)};
             case "bet" -> new int[] {about(7), 1 + about(6), random.nextBoolean() ? about(100) : random.nextInt(40)};
             case "fit" -> new int[] {about(3)};
@@ -176,6 +177,14 @@ public final class RandomRunsTest {
             case 2: return random.nextInt(4) == 0 ? (random.nextBoolean() ? Integer.MAX_VALUE : Integer.MIN_VALUE) : 0;
             default: return n <= 0 ? 0 : random.nextInt(n);
         }
+    }
+
+    /** What is so in the row 3150264: were all drawn at random, hardly an order would ever fit. */
+    private int[] agreeing() {
+        int[] row = {3, 1, 5, 0, 2, 6, 4};
+        int first = random.nextInt(6);
+        int second = random.nextInt(3) == 0 ? first + 1 + random.nextInt(6 - first) : first + 1;
+        return random.nextBoolean() ? new int[] {row[first], row[second], 1} : new int[] {row[second], row[first], 0};
     }
 
     private int digits() {
