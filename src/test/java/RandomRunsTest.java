@@ -46,7 +46,14 @@ public final class RandomRunsTest {
 
     private String go(List<Method> methods) throws Exception {
         while (calls < 500) {
-            String wrong = random.nextInt(14) == 0 ? tell() : ask(methods.get(random.nextInt(methods.size())));
+            String wrong = switch (random.nextInt(120)) {
+                case 0, 1, 2, 3, 4, 5 -> tell(randomText());
+                case 6, 7, 8 -> tell(manyRules());
+                case 9, 10 -> knowMuch();
+                case 11, 12 -> betMuch();
+                case 13, 14 -> call("loose", arguments("loose"));
+                default -> ask(methods.get(random.nextInt(methods.size())));
+            };
             if (wrong != null) {
                 return wrong;
             }
@@ -55,11 +62,10 @@ public final class RandomRunsTest {
     }
 
     /** Writes a text, mostly a good one, and has it done. */
-    private String tell() throws Exception {
+    private String tell(String text) throws Exception {
         if (calls > 340) {
             return null;
         }
-        String text = randomText();
         String wrong = call("erase");
         for (int i = 0; wrong == null && i < text.length(); i++) {
             wrong = call("write", text.charAt(i));
@@ -128,6 +134,21 @@ public final class RandomRunsTest {
         return text.toString();
     }
 
+    /** Few orders, or none, as texts of all clauses hardly ever leave. */
+    private String manyRules() {
+        StringBuilder text = new StringBuilder("free");
+        for (int rules = 3 + random.nextInt(4); rules > 0; rules--) {
+            int d = random.nextInt(7);
+            int e = (d + 1 + random.nextInt(6)) % 7;
+            text.append(switch (random.nextInt(6)) {
+                case 0 -> ";first " + d;
+                case 1 -> ";beside " + d + " " + e;
+                default -> ";ahead " + d + " " + e;
+            });
+        }
+        return text.toString();
+    }
+
     private void add(StringBuilder text, int number) {
         text.append(random.nextInt(9) == 0 ? "  " : random.nextInt(9) == 0 && Character.isLetter(text.charAt(text.length() - 1)) ? "" : " ");
         if (number < 10 && random.nextInt(9) == 0) text.append('0');
@@ -159,8 +180,7 @@ public final class RandomRunsTest {
             case "odds" -> new int[] {about(6), about(2)};
             case "makeReady" -> new int[] {1 + about(3), about(2)};
             case "fair" -> new int[] {about(7), 1 + about(7), about(2)};
-            case "known" -> random.nextInt(5) == 0 ? new int[] {about(7), about(7), about(2)} : agreeing();
-            case "beside", "across", "loose" -> new int[] {about(7), about(7), about(2)};
+            case "beside", "across", "known", "loose" -> new int[] {about(7), about(7), about(2)};
             case "waits", "at" -> new int[] {about(7)};
             case "bet" -> new int[] {about(7), 1 + about(6), random.nextBoolean() ? about(100) : random.nextInt(40)};
             case "fit" -> new int[] {about(3)};
@@ -179,16 +199,47 @@ public final class RandomRunsTest {
         }
     }
 
-    /** What is so in the row 3150264: were all drawn at random, hardly an order would ever fit. */
-    private int[] agreeing() {
-        int[] row = {3, 1, 5, 0, 2, 6, 4};
-        int first = random.nextInt(6);
-        int second = random.nextInt(3) == 0 ? first + 1 + random.nextInt(6 - first) : first + 1;
-        return random.nextBoolean() ? new int[] {row[first], row[second], 1} : new int[] {row[second], row[first], 0};
+    /** Much that is so in one row: what is drawn one by one is forgotten before it settles the day at any place. */
+    private String knowMuch() throws Exception {
+        if (calls > 470) {
+            return null;
+        }
+        String row = String.format("%07d", digitsOfDays());
+        String wrong = call("forget");
+        for (int i = 0; wrong == null && i < 9; i++) {
+            int first = random.nextInt(6);
+            int second = random.nextInt(4) == 0 ? first + 1 + random.nextInt(6 - first) : first + 1;
+            int earlier = row.charAt(first) - '0';
+            int later = row.charAt(second) - '0';
+            wrong = random.nextBoolean() ? call("known", earlier, later, 1) : call("known", later, earlier, 0);
+            if (wrong == null) wrong = call("fit", about(3));
+            if (wrong == null) wrong = call("at", about(7));
+        }
+        return wrong;
+    }
+
+    /** Cheap bets on few days, among which there are sure ones. */
+    private String betMuch() throws Exception {
+        if (calls > 470) {
+            return null;
+        }
+        int day = random.nextInt(7);
+        int bets = 2 + random.nextInt(6);
+        String wrong = call("call");
+        for (int i = 0; wrong == null && i < bets; i++) {
+            wrong = call("bet", random.nextInt(3) == 0 ? random.nextInt(7) : (day + random.nextInt(2)) % 7, 1 + about(6), random.nextInt(60));
+        }
+        if (wrong == null) wrong = call("sure", 0);
+        if (wrong == null) wrong = call("sure", 1);
+        return wrong;
     }
 
     private int digits() {
         if (random.nextInt(6) == 0) return random.nextInt(8) == 0 ? random.nextInt() : random.nextInt(7000000);
+        return digitsOfDays();
+    }
+
+    private int digitsOfDays() {
         List<Integer> days = new ArrayList<>(List.of(0, 1, 2, 3, 4, 5, 6));
         java.util.Collections.shuffle(days, random);
         int n = 0;
